@@ -1,0 +1,103 @@
+import java.lang.reflect.Array;
+import java.lang.reflect.Field;
+import java.lang.reflect.Modifier;
+import java.util.List;
+
+/** Compares answers with what is due, prints the wrong ones and counts them. */
+final class Check {
+    private int wrong = 0;
+    private int made = 0;
+
+    int wrong() {
+        return wrong;
+    }
+
+    void due(String call, long got, long want) {
+        made++;
+        if (got != want) {
+            wrong++;
+            System.out.println(call + " answered " + got + ", due is " + want);
+        }
+    }
+
+    void due(String call, boolean got, boolean want) {
+        due(call, got ? 1 : 0, want ? 1 : 0);
+    }
+
+    /** The call must throw exactly this exception and leave every field of the object as it was. */
+    void dueThrow(String call, RegisterGateway x, Class<? extends RuntimeException> want, Runnable body) {
+        made++;
+        String before = state(x);
+        Class<?> got = null;
+        try {
+            body.run();
+        } catch (RuntimeException e) {
+            got = e.getClass();
+        }
+        if (got != want) {
+            wrong++;
+            System.out.println(call + " threw " + (got == null ? "nothing" : got.getName()) + ", due is " + want.getName());
+        } else if (!before.equals(state(x))) {
+            wrong++;
+            System.out.println(call + " threw and changed the object");
+        }
+    }
+
+    void outOfBounds(String call, RegisterGateway x, Runnable body) {
+        dueThrow(call, x, IndexOutOfBoundsException.class, body);
+    }
+
+    void illegalArgument(String call, RegisterGateway x, Runnable body) {
+        dueThrow(call, x, IllegalArgumentException.class, body);
+    }
+
+    void illegalState(String call, RegisterGateway x, Runnable body) {
+        dueThrow(call, x, IllegalStateException.class, body);
+    }
+
+    /** All fields of the object and of what it holds, as text. */
+    static String state(Object object) {
+        StringBuilder text = new StringBuilder();
+        describe(object, text);
+        return text.toString();
+    }
+
+    private static void describe(Object object, StringBuilder text) {
+        if (object == null || object instanceof Number || object instanceof Boolean || object instanceof Character) {
+            text.append(object).append(' ');
+        } else if (object instanceof List<?> list) {
+            text.append(list.size()).append("[ ");
+            list.forEach(o -> describe(o, text));
+            text.append("] ");
+        } else if (object.getClass().isArray()) {
+            for (int i = 0; i < Array.getLength(object); i++) {
+                describe(Array.get(object, i), text);
+            }
+        } else {
+            describeFields(object, text);
+        }
+    }
+
+    private static void describeFields(Object object, StringBuilder text) {
+        text.append("{ ");
+        for (Field field : object.getClass().getDeclaredFields()) {
+            if (!Modifier.isStatic(field.getModifiers())) {
+                try {
+                    field.setAccessible(true);
+                    describe(field.get(object), text);
+                } catch (IllegalAccessException e) {
+                    throw new IllegalStateException(e);
+                }
+            }
+        }
+        text.append("} ");
+    }
+
+    /** Ends the test: exit code 1 if an answer was wrong or none was looked at. */
+    void end(String name) {
+        System.out.println(name + ": " + made + " answers, " + wrong + " wrong");
+        if (wrong != 0 || made == 0) {
+            System.exit(1);
+        }
+    }
+}

@@ -31,7 +31,16 @@ public final class GroupsTest {
         x.read(0, 2, 10, 2);
         CHECK.due("overlapping and beside", x.group(), bits(0, 1, 2, 3));
         frame("reads", x, 1, 3, 0, 8, 0, 5);
+        for (int r = 0; r < 32; r++) {
+            x.poke(1, r, 1000 * r);
+        }
         CHECK.due("joined step", x.step(), 4);
+        for (int i = 0; i < 4; i++) {
+            for (int k = 0; k < x.request(i, 3); k++) {
+                CHECK.due("each gets its own values", x.value(i, k), 1000 * (x.request(i, 2) + k));
+            }
+            CHECK.due("all at one time", x.request(i, 7), 12 + 5 + 15);
+        }
         CHECK.due("besides the first", x.count(5), 3);
         CHECK.due("one frame", x.count(0), 1);
         CHECK.due("next group", x.group(), bits(4));

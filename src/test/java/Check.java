@@ -1,7 +1,10 @@
 import java.lang.reflect.Array;
 import java.lang.reflect.Field;
+import java.lang.reflect.InvocationTargetException;
+import java.lang.reflect.Method;
 import java.lang.reflect.Modifier;
 import java.util.List;
+import java.util.function.IntConsumer;
 
 /** Compares answers with what is due, prints the wrong ones and counts them. */
 final class Check {
@@ -53,6 +56,50 @@ final class Check {
 
     void illegalState(String call, RegisterGateway x, Runnable body) {
         dueThrow(call, x, IllegalStateException.class, body);
+    }
+
+    /** The call must take the least and the greatest number of a range, and refuse those beyond. */
+    void range(String call, RegisterGateway x, int least, int greatest,
+            Class<? extends RuntimeException> refusal, IntConsumer body) {
+        for (int taken : new int[] {least, greatest}) {
+            due(call + ", " + taken + " is taken", taken(body, taken), true);
+        }
+        refused(call, x, refusal, body, least - 1, greatest + 1, Integer.MIN_VALUE, Integer.MAX_VALUE);
+    }
+
+    /** Each of these numbers must be refused. */
+    void refused(String call, RegisterGateway x, Class<? extends RuntimeException> refusal, IntConsumer body,
+            int... numbers) {
+        for (int number : numbers) {
+            dueThrow(call + ", " + number, x, refusal, () -> body.accept(number));
+        }
+    }
+
+    private static boolean taken(IntConsumer body, int number) {
+        try {
+            body.accept(number);
+            return true;
+        } catch (RuntimeException e) {
+            return false;
+        }
+    }
+
+    /** Runs every test of a class, a private method without parameters each, so that none is forgotten. */
+    void runAll(Class<?> tests) {
+        for (Method method : tests.getDeclaredMethods()) {
+            if (method.getParameterCount() == 0 && method.getReturnType() == void.class && !method.isSynthetic()) {
+                try {
+                    method.setAccessible(true);
+                    method.invoke(null);
+                } catch (IllegalAccessException e) {
+                    throw new IllegalStateException(e);
+                } catch (InvocationTargetException e) {
+                    wrong++;
+                    System.out.println(method.getName() + " ended with " + e.getCause());
+                }
+            }
+        }
+        end(tests.getSimpleName());
     }
 
     /** All fields of the object and of what it holds, as text, but for the copy that leastDrain tries steps on. */

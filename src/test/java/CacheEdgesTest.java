@@ -169,6 +169,9 @@ public final class CacheEdgesTest {
             CHECK.due("from the cache", x.request(i, 8), 1);
         }
         CHECK.due("the cached value, not the one of now", x.value(1, 0), 104);
+        CHECK.due("the second", x.value(1, 1), 105);
+        CHECK.due("the last", x.value(1, 3), 107);
+        CHECK.due("the last alone", x.value(3, 0), 107);
         CHECK.due("the first register is missing", x.frameByte(0), 1);
         x.set(4, 0);
         x.step();
@@ -313,19 +316,20 @@ public final class CacheEdgesTest {
     }
 
     private static void forgotten(String name, RegisterGateway x, int code) {
+        x.write(0, 1, 29, 101);
         x.write(0, 1, 30, 101);
-        x.write(0, 1, 31, 101);
         x.step();
         CHECK.due(name + ": code", x.request(2, 6), code);
-        CHECK.due(name + ": its neighbour stays", x.cached(1, 29), 129);
-        CHECK.due(name + ": first is forgotten", x.cached(1, 30), -1);
-        CHECK.due(name + ": last is forgotten", x.cacheAge(1, 31), -1);
+        CHECK.due(name + ": the one before stays", x.cached(1, 28), 128);
+        CHECK.due(name + ": first is forgotten", x.cached(1, 29), -1);
+        CHECK.due(name + ": last is forgotten", x.cacheAge(1, 30), -1);
+        CHECK.due(name + ": the one behind stays", x.cached(1, 31), 131);
     }
 
     /** Description, A step of the gateway: "When writes fail, the cached values of their registers are forgotten." */
     private static void failedWritesForget() {
         RegisterGateway locked = withCached(28, 31);
-        locked.protect(1, 31, true);
+        locked.protect(1, 30, true);
         forgotten("readable only", locked, 2);
         RegisterGateway small = withCached(28, 31);
         small.setDevice(1, 1, 100);
@@ -430,6 +434,76 @@ public final class CacheEdgesTest {
         y.set(4, 1);
         y.read(0, 2, 0, 1);
         CHECK.due("with one request more", y.leastDrain(40), 40);
+    }
+
+    /** Promise 24: "(with all else as it is now)". The second read is sent only if the cache does not answer it. */
+    private static void leastDrainKnowsTheCache() {
+        RegisterGateway x = new RegisterGateway();
+        x.set(2, 0);
+        x.pass(1000);
+        x.read(0, 1, 5, 1);
+        x.step();
+        x.fault(1, 3, 40);
+        x.read(0, 1, 0, 1);
+        x.read(0, 1, 5, 1);
+        x.set(0, 42);
+        CHECK.due("fresh when the first has failed", x.leastDrain(40), 0);
+        x.set(0, 41);
+        CHECK.due("one tick too old then", x.leastDrain(40), 4);
+        x.set(0, 42);
+        x.clearCache();
+        CHECK.due("not cached", x.leastDrain(40), 4);
+    }
+
+    private static RegisterGateway twoWrites(int firstRegister, int firstValue, int secondRegister) {
+        RegisterGateway x = new RegisterGateway();
+        x.set(2, 0);
+        x.set(4, 0);
+        x.fault(1, 3, 40);
+        x.write(0, 1, firstRegister, firstValue);
+        x.write(0, 1, secondRegister, 1);
+        return x;
+    }
+
+    /** Promise 24: "(with all else as it is now)". */
+    private static void leastDrainKnowsTheDevices() {
+        RegisterGateway slow = new RegisterGateway();
+        slow.set(2, 0);
+        slow.setDevice(1, 0, 45);
+        slow.read(0, 1, 0, 1);
+        slow.read(0, 1, 5, 1);
+        CHECK.due("a slow device", slow.leastDrain(40), 4);
+        CHECK.due("two writes that differ", twoWrites(5, 101, 9).leastDrain(40), 0);
+        RegisterGateway small = twoWrites(5, 101, 9);
+        small.setDevice(1, 1, 100);
+        CHECK.due("an exception 3 fits both", small.leastDrain(40), 4);
+        RegisterGateway locked = twoWrites(5, 101, 9);
+        locked.protect(1, 5, true);
+        CHECK.due("an exception 2 fits both", locked.leastDrain(40), 4);
+    }
+
+    /** Promise 24: "(with all else as it is now)". */
+    private static void leastDrainKnowsTheWrites() {
+        CHECK.due("the same register and value", twoWrites(5, 1, 5).leastDrain(40), 4);
+        CHECK.due("another value", twoWrites(5, 2, 5).leastDrain(40), 0);
+        CHECK.due("another register", twoWrites(6, 1, 5).leastDrain(40), 0);
+    }
+
+    /** Promise 24: "with which finish() would take no false reply". The fortieth step is the one that takes it. */
+    private static void leastDrainOfFortySteps() {
+        RegisterGateway x = new RegisterGateway();
+        x.set(2, 0);
+        x.set(4, 0);
+        x.fault(2, 3, 40);
+        for (int i = 0; i < 38; i++) {
+            x.read(0, 1, i % 32, 1);
+        }
+        x.read(0, 2, 0, 1);
+        x.read(0, 2, 5, 1);
+        CHECK.due("4 is needed", x.leastDrain(40), 4);
+        CHECK.due("3 is not enough", x.leastDrain(3), -1);
+        x.finish();
+        CHECK.due("finish with 0", x.count(2), 1);
     }
 
     /** Promise 24: "Nothing is changed." */

@@ -27,23 +27,35 @@ final class Check {
         due(call, got ? 1 : 0, want ? 1 : 0);
     }
 
-    /** The call must throw exactly this exception and leave every field of the object as it was. */
+    /**
+     * The call must throw exactly this exception, by a throw of the class itself, and leave every field of
+     * the object as it was.
+     */
     void dueThrow(String call, RegisterGateway x, Class<? extends RuntimeException> want, Runnable body) {
         made++;
         String before = state(x);
-        Class<?> got = null;
+        RuntimeException got = null;
         try {
             body.run();
         } catch (RuntimeException e) {
-            got = e.getClass();
+            got = e;
         }
-        if (got != want) {
+        if (got == null || got.getClass() != want) {
             wrong++;
-            System.out.println(call + " threw " + (got == null ? "nothing" : got.getName()) + ", due is " + want.getName());
+            System.out.println(call + " threw " + got + ", due is " + want.getName());
+        } else if (!isThrownByClass(got)) {
+            wrong++;
+            System.out.println(call + ": the library threw, not the class");
         } else if (!before.equals(state(x))) {
             wrong++;
             System.out.println(call + " threw and changed the object");
         }
+    }
+
+    /** A list's get would throw an IndexOutOfBoundsException, too, but by itself. */
+    private static boolean isThrownByClass(RuntimeException e) {
+        StackTraceElement[] trace = e.getStackTrace();
+        return trace.length > 0 && trace[0].getClassName().startsWith("RegisterGateway");
     }
 
     void outOfBounds(String call, RegisterGateway x, Runnable body) {

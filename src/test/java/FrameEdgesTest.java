@@ -346,7 +346,7 @@ public final class FrameEdgesTest {
         CHECK.due("no register and too great", code(y), 2);
     }
 
-    /** Description, Frames: "otherwise it does what the frame says (writing takes effect even if the reply is lost)". */
+    /** Description, Frames: "(writing takes effect even if the reply is lost)". */
     private static void writingWithoutAReply() {
         RegisterGateway x = writes(30, 31);
         x.set(2, 0);
@@ -389,6 +389,13 @@ public final class FrameEdgesTest {
         y.read(0, 1, 5, 1);
         y.read(0, 1, 6, 1);
         CHECK.due("waiting ones alone", y.group(), bits(1, 2));
+        RegisterGateway z = reads(5, 1);
+        z.step();
+        z.read(0, 1, 6, 1);
+        z.read(0, 1, 5, 1);
+        CHECK.due("one that the cache could answer is looked at like the others", z.group(), bits(1, 2));
+        z.step();
+        CHECK.due("and is not done from the cache then", z.request(2, 8), 0);
     }
 
     /** Description, A step of the gateway: "one joins the group if it is of the same kind as q (read or write)". */
@@ -458,7 +465,11 @@ public final class FrameEdgesTest {
         y.read(0, 1, 6, 1);
         y.read(0, 1, 6, 2);
         y.write(0, 1, 5, 1);
-        CHECK.due("beside the write is no overlap, and a later write bars nothing", y.group(), bits(0, 2));
+        CHECK.due("below the write is no overlap, and a later write bars nothing", y.group(), bits(0, 2));
+        RegisterGateway z = reads(8, 1);
+        z.write(0, 1, 6, 1);
+        z.read(0, 1, 7, 1);
+        CHECK.due("above the write is no overlap", z.group(), bits(0, 2));
     }
 
     /** Description, A step of the gateway: "and has a range that overlaps its own, is a write". */
@@ -479,6 +490,11 @@ public final class FrameEdgesTest {
             boolean joins = register == 4 || register == 5;
             CHECK.due("a write to " + register, x.group(), joins ? bits(0, 2) : 1);
         }
+        RegisterGateway y = writes(9);
+        y.read(0, 1, 6, 2);
+        y.write(0, 1, 8, 1);
+        y.write(0, 1, 7, 1);
+        CHECK.due("above the read is no overlap, its last register is", y.group(), bits(0, 2));
         CHECK.due("an earlier read bars no read", reads(5, 1, 7, 1, 6, 1, 7, 1).group(), bits(0, 2, 3));
     }
 

@@ -11,7 +11,8 @@ import java.util.regex.Pattern;
 
 /**
  * The remarks of the tests: each sentence that one of them names stands in that chapter of the document,
- * and each sentence of the promises and of the chapter "Description" is named by a test.
+ * and a test names, whole or in part, each sentence of the chapter "Description" and each line of the
+ * promises that tells a parameter, what is returned or what is thrown.
  */
 public final class RemarksTest {
     private static final Check CHECK = new Check();

@@ -378,8 +378,9 @@ public final class CacheEdgesTest {
     }
 
     /**
-     * Promise 24: "Returns the least drain from 0 to most with which finish() would take no false reply
-     * (with all else as it is now); -1 if there is none."
+     * Promise 24: "Finds the least drain without false replies." Promise 24: "Returns the least drain from 0
+     * to most with which finish() would take no false reply (with all else as it is now); -1 if there is
+     * none."
      */
     private static void leastDrainEdges() {
         CHECK.due("without requests", new RegisterGateway().leastDrain(0), 0);

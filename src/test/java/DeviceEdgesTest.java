@@ -65,7 +65,7 @@ public final class DeviceEdgesTest {
         CHECK.refused("set, value wrong too", x, Scenes.OUT_OF_BOUNDS, setting -> x.set(setting, -1), -1, 5);
     }
 
-    /** Promise 2: "setting: 0 lifetime, 1 timeout, 2 retries, 3 drain, 4 joining". */
+    /** Promise 2: "Sets a setting." Promise 2: "setting: 0 lifetime, 1 timeout, 2 retries, 3 drain, 4 joining". */
     private static void eachSettingIsItsOwn() {
         RegisterGateway x = new RegisterGateway();
         int[] values = {100, 200, 3, 400, 0};
@@ -192,7 +192,7 @@ public final class DeviceEdgesTest {
         CHECK.refused("property and value", x, Scenes.OUT_OF_BOUNDS, p -> x.setDevice(1, p, -1), -1, 2);
     }
 
-    /** Promise 3: "device: 1 to 3". */
+    /** Promise 3: "Sets a property of a device." Promise 3: "device: 1 to 3". */
     private static void setDeviceSetsOneDevice() {
         RegisterGateway x = new RegisterGateway();
         for (int device = 1; device <= 3; device++) {
@@ -368,7 +368,10 @@ public final class DeviceEdgesTest {
         return x.request(request, 6);
     }
 
-    /** Promise 6: "device: 1 to 3". Promise 6: "register: 0 to 31". Promise 6: "on: true for readable only". */
+    /**
+     * Promise 6: "Makes a register readable only, or writable again." Promise 6: "device: 1 to 3".
+     * Promise 6: "register: 0 to 31". Promise 6: "on: true for readable only".
+     */
     private static void protectMeansOneRegister() {
         RegisterGateway x = new RegisterGateway();
         x.protect(1, 0, true);
@@ -447,7 +450,10 @@ public final class DeviceEdgesTest {
         CHECK.illegalState("and no more", x, () -> x.fault(2, 1, 0));
     }
 
-    /** Promise 7: "Returns the number of faults that the device has." */
+    /**
+     * Promise 7: "Appends a fault to the faults of a device." Promise 7: "Returns the number of faults that
+     * the device has."
+     */
     private static void faultReturnsHowMany() {
         RegisterGateway x = new RegisterGateway();
         for (int n = 1; n <= 6; n++) {

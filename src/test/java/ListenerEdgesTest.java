@@ -49,7 +49,10 @@ public final class ListenerEdgesTest {
         latest("not broken", x, 4, 6);
     }
 
-    /** Promise 25: "Returns the number of bytes of the frame that has not ended." */
+    /**
+     * Promise 25: "Feeds the listener with a byte." Promise 25: "Returns the number of bytes of the frame
+     * that has not ended."
+     */
     private static void feedReturnsHowMany() {
         RegisterGateway x = new RegisterGateway();
         for (int i = 1; i <= 505; i++) {

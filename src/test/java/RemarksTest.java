@@ -11,8 +11,8 @@ import java.util.regex.Pattern;
 
 /**
  * The remarks of the tests: each sentence that one of them names stands in that chapter of the document,
- * and a test names, whole or in part, each sentence of the chapter "Description" and each line of the
- * promises that tells a parameter, what is returned or what is thrown.
+ * and a test names, whole or in part, each sentence of the chapters "What it is" and "Description" and
+ * of the promises, whose lines for parameters and exceptions count as sentences.
  */
 public final class RemarksTest {
     private static final Check CHECK = new Check();
@@ -22,6 +22,7 @@ public final class RemarksTest {
             Pattern.compile("(Promise \\d+|Description, [A-Za-z ]+|What it is): \"([^\"]+)\"");
     private static final Pattern TEST = Pattern.compile("private static void (\\w+)\\(\\)");
     private static final Pattern RUNS_ALL = Pattern.compile("CHECK\\.runAll\\(\\w+\\.class\\)");
+    private static final Pattern SIGNATURE = Pattern.compile("(\\w+ )?\\w+\\([^)]*\\)( throws .*)?");
     private static final List<String> PARAGRAPHS = List.of("Devices", "Frames", "Requests", "Cache",
             "A step of the gateway", "Trying a frame", "Listener", "Exceptions");
     /** Sentences that say only what a name means or what follows. */
@@ -97,13 +98,16 @@ public final class RemarksTest {
         }
     }
 
-    private static List<String> sentences(String chapter, List<String> lines) {
+    /** FaceTest holds the signatures; a line of dashes only begins a part of the class. */
+    private static boolean isSignatureOrHeading(String line) {
+        return SIGNATURE.matcher(line).matches() || line.startsWith("---- ");
+    }
+
+    private static List<String> sentences(List<String> lines) {
         List<String> sentences = new ArrayList<>();
         for (String line : lines) {
-            if (chapter.startsWith("Description")) {
+            if (!isSignatureOrHeading(line)) {
                 sentences.addAll(List.of(line.split("(?<=\\.) ")));
-            } else if (line.startsWith("Returns ") || line.startsWith("Throws ") || line.matches("[a-z]+: .*")) {
-                sentences.add(line);
             }
         }
         sentences.removeIf(s -> WITHOUT_A_CASE.stream().anyMatch(s::startsWith));
@@ -112,10 +116,10 @@ public final class RemarksTest {
 
     private static void sentencesHaveTests(Map<String, List<String>> chapters, Map<String, List<String>> remarks) {
         chapters.forEach((chapter, lines) -> {
-            if (chapter.startsWith("Promise") || chapter.startsWith("Description")) {
+            if (chapter.startsWith("Promise") || chapter.startsWith("Description") || chapter.equals("What it is")) {
                 List<String> quotes = remarks.getOrDefault(chapter, List.of());
                 CHECK.due(chapter + " has a test", quotes.isEmpty(), false);
-                for (String sentence : sentences(chapter, lines)) {
+                for (String sentence : sentences(lines)) {
                     boolean named = quotes.stream().anyMatch(q -> sentence.contains(q) || q.contains(sentence));
                     CHECK.due("a test for " + chapter + ": \"" + sentence + "\"", named, true);
                 }

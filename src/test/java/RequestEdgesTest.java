@@ -66,7 +66,7 @@ public final class RequestEdgesTest {
         CHECK.outOfBounds("with a wrong device", x, () -> x.read(0, 0, 0, 1));
     }
 
-    /** Promise 8: "Returns the number of the request." */
+    /** Promise 8: "Makes a read request." Promise 8: "Returns the number of the request." */
     private static void readReturnsItsNumber() {
         RegisterGateway x = new RegisterGateway();
         CHECK.due("first", x.read(0, 1, 0, 1), 0);
@@ -139,7 +139,7 @@ public final class RequestEdgesTest {
         CHECK.outOfBounds("with a wrong device", x, () -> x.write(0, 0, 0, 1));
     }
 
-    /** Promise 9: "Returns the number of the request." */
+    /** Promise 9: "Makes a write request." Promise 9: "Returns the number of the request." */
     private static void writeReturnsItsNumber() {
         RegisterGateway x = new RegisterGateway();
         CHECK.due("first", x.write(0, 1, 0, 1), 0);
@@ -260,7 +260,7 @@ public final class RequestEdgesTest {
         CHECK.range("state", x, 0, 2, Scenes.OUT_OF_BOUNDS, state -> x.requests(state));
     }
 
-    /** Promise 12: "Returns the number of requests." */
+    /** Promise 12: "Counts the requests in a state." Promise 12: "Returns the number of requests." */
     private static void requestsCounts() {
         RegisterGateway x = Scenes.worn();
         CHECK.due("waiting", x.requests(0), 3);
@@ -279,7 +279,10 @@ public final class RequestEdgesTest {
         CHECK.range("state", x, 0, 2, Scenes.OUT_OF_BOUNDS, state -> x.requestsOf(3, state));
     }
 
-    /** Promise 13: "client: 0 to 3". Promise 13: "state: 0 to 2". Promise 13: "Returns the number of requests." */
+    /**
+     * Promise 13: "Counts the requests of a client in a state." Promise 13: "client: 0 to 3". Promise 13:
+     * "state: 0 to 2". Promise 13: "Returns the number of requests."
+     */
     private static void requestsOfCounts() {
         RegisterGateway x = Scenes.worn();
         int[][] due = {{1, 1, 0}, {1, 0, 1}, {1, 1, 0}, {0, 0, 1}};

@@ -18,7 +18,10 @@ public final class StepEdgesTest {
         CHECK.due(name + ": time", x.request(request, 7), time);
     }
 
-    /** Promise 14: "Returns the number of requests that are done or failed by it; 0 if none is waiting." */
+    /**
+     * Promise 14: "Makes a step." Promise 14: "Returns the number of requests that are done or failed by
+     * it; 0 if none is waiting."
+     */
     private static void stepReturnsHowMany() {
         RegisterGateway x = new RegisterGateway();
         CHECK.due("no request", x.step(), 0);
@@ -81,7 +84,7 @@ public final class StepEdgesTest {
         CHECK.range("pass", x, 0, 10000, Scenes.ILLEGAL_ARGUMENT, ticks -> x.pass(ticks));
     }
 
-    /** Promise 16: "Returns the time then." */
+    /** Promise 16: "Lets time pass." Promise 16: "Returns the time then." */
     private static void passReturnsTheTime() {
         RegisterGateway x = new RegisterGateway();
         CHECK.due("0 ticks", x.pass(0), 0);
@@ -189,6 +192,27 @@ public final class StepEdgesTest {
         counts("not before the step", x, 0, 0, 0, 0, 0, 0);
         x.step();
         counts("39 of 40, though they fail", x, 1, 1, 0, 0, 0, 39);
+    }
+
+    /** Promise 23: "Counts something since the beginning." */
+    private static void countsNeverBeginAnew() {
+        RegisterGateway x = Scenes.late(40);
+        x.finish();
+        x.set(4, 1);
+        x.read(0, 1, 5, 1);
+        x.read(0, 1, 8, 1);
+        x.read(0, 1, 9, 1);
+        x.finish();
+        counts("all six", x, 3, 2, 1, 1, 1, 1);
+        x.clearCache();
+        x.pass(10000);
+        x.leastDrain(40);
+        x.endFrame();
+        x.finish();
+        counts("they stay", x, 3, 2, 1, 1, 1, 1);
+        x.read(0, 1, 8, 1);
+        x.finish();
+        counts("they go on", x, 4, 3, 1, 1, 1, 1);
     }
 
     private static RegisterGateway behindMissed(int drain, int device) {

@@ -28,8 +28,8 @@ import javax.tools.StandardJavaFileManager;
 import javax.tools.ToolProvider;
 
 /**
- * Rules 2, 4 to 6, 8, 9, 11 and 12 of LANGUAGE.md, as far as the compiler's tree of the source tells them.
- * Rules 1 and 3 and words that never stand in the source are FaceTest's.
+ * Rules 2, 4 to 6, 8, 9 and 11 of LANGUAGE.md, as far as the compiler's tree of the source tells them.
+ * Rule 1 and words that never stand in the source are FaceTest's; the other rules are held by reading.
  */
 public final class LanguageTest extends TreePathScanner<Void, Void> {
     private static final Check CHECK = new Check();
